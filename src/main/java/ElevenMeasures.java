@@ -1293,9 +1293,9 @@ public final class ElevenMeasures {
                 for (int d = c + 1; d < cabinet.number; d++) {
                     Card one = cabinet.cards[c];
                     Card two = cabinet.cards[d];
-                    boolean isHands = one.hand != two.hand && (one.hand == hand || two.hand == hand);
+                    boolean isOfHand = one.hand == hand || two.hand == hand;
                     boolean isTaken = one.measures[m] > 0 && two.measures[m] > 0;
-                    if (isHands && isTaken && isOne(c, d)) {
+                    if (isOfHand && one.hand != two.hand && isTaken && isOne(c, d)) {
                         doubles++;
                         apart += Math.abs(one.measures[m] - two.measures[m]);
                     }
