@@ -47,6 +47,7 @@ public final class PromiseTest {
         promise33Full();
         promise34();
         promise35();
+        promise35Elsewhere();
         Check.close();
     }
 
@@ -149,6 +150,9 @@ public final class PromiseTest {
         faults("7", 0, 2);
         faults("keeps 5;", 0, 2);
         faults("kee 5;", 0, 2);
+        faults("xeep 5;", 0, 2);
+        faults("keepz 5;", 0, 2);
+        faults("keep 5;" + (char) 0, 7, 1);
         faults("edgea 1 2;", 0, 2);
         faults("growb 50;", 0, 2);
         faults("Keep 5;", 0, 1);
@@ -534,18 +538,24 @@ public final class PromiseTest {
             due("18: miss of " + c, x.match(50 + c), miss[c]);
         }
         due("18: no such card", x.match(57), BAD);
+        due("18: no such card, all others", x.match(73), BAD);
         due("18: last of the list", x.match(33), NONE);
         int[] bad = {-1, 2, 9, 34, 49, 73, 74, Integer.MAX_VALUE, Integer.MIN_VALUE};
         for (int what : bad) {
             due("18: what " + what, x.match(what), BAD);
         }
+        Check.plain(x, 1, 1, 1, 1, 1);
+        x.tell(0, 1, 0, 0, 8);
+        due("18: a measure of 1", x.match(57), NONE);
+        x.tell(0, 1, 500, 0, 0);
+        due("18: a measure of 1 in both", x.match(57), NONE);
         x.tell(0, 0, 0, 0, 0);
-        due("18: nothing taken in both", x.match(0), 7);
+        due("18: nothing taken in both", x.match(0), 8);
         due("18: misses nothing", x.match(50), 0);
         x.day(5);
         x.out(0);
         due("18: out", x.match(50), NONE);
-        due("18: out is none of them", x.match(0), 6);
+        due("18: out is none of them", x.match(0), 7);
         due("18: the first then", x.match(10), 1);
     }
 
@@ -559,6 +569,9 @@ public final class PromiseTest {
         due("18: plain, not", x.match(51), NONE);
         x.tell(0, 105, 0, 0, 0);
         due("18: young, above", x.match(50), NONE);
+        x.tell(0, 1, 0, 0, 0);
+        due("18: a telling of 1", x.match(51), NONE);
+        x.tell(0, 105, 0, 0, 0);
         x.day(30);
         due("18: grow of the day", x.match(50), 0);
         x.tell(0, 98, 0, 0, 0);
@@ -586,7 +599,15 @@ public final class PromiseTest {
         x.tell(0, 500, 0, 0, 0);
         due("19: nobody, over", x.byChance(0), 0);
         due("19: nobody, under", x.byChance(1), 1);
+        x.tell(0, 0, 1, 0, 0);
+        due("19: a card that was not measured is not near", x.byChance(0), 0);
+        Check.plain(x, 1, 0, 1, 0, 0);
+        due("19: one of 1 is", x.byChance(0), 1);
+        due("19: one of 1 of four", x.byChance(1), 1);
+        x.anew(3, 1, 0);
+        due("19: no more", x.byChance(0), 0);
         x.day(5);
+        x.out(3);
         x.out(2);
         x.tell(0, 98, 202, 0, 0);
         due("19: without the out one, over", x.byChance(0), 1);
@@ -608,6 +629,10 @@ public final class PromiseTest {
         due("20: not taken", x.grown(0, 1, 500), 0);
         due("20: does not grow", x.grown(0, 2, 500), 50);
         due("20: not young", x.grown(1, 0, 500), 100);
+        x.anew(0, 1, 1);
+        due("20: a measure of 1", x.grown(0, 1, 4), BAD);
+        x.anew(0, 0, 1);
+        due("20: a measure of 1 grows", x.grown(0, 0, 15), 2);
         x.day(50);
         x.anew(0, 0, 200);
         due("20: what is told now", x.grown(0, 0, 15), 201);
@@ -689,6 +714,10 @@ public final class PromiseTest {
         x.out(1);
         due("23: out", x.join(0, 1), 0);
         due("23: out, the other way", x.join(1, 0), 0);
+        due("23: an out one with one that is not", x.join(1, 2), 0);
+        due("23: two that are not", x.join(2, 3), 1);
+        x.out(2);
+        due("23: both out", x.join(1, 2), 0);
     }
 
     private static void promise24() {
@@ -746,6 +775,9 @@ public final class PromiseTest {
         due("25: another man", x.guess(3, 3, 2), 0);
         x.bar(0, 2, true);
         due("25: a quarrel is one man still", x.guess(0, 0, 2), 4);
+        Check.plain(x, 4, 1, 600, 600, 600);
+        Check.plain(x, 5, 1, 600, 600, 600);
+        due("25: measures of 1", x.guess(4, 0, 2), 1);
         x.day(5);
         x.out(1);
         due("25: out", x.guess(1, 0, 2), 0);
@@ -781,6 +813,14 @@ public final class PromiseTest {
         evenIs(x, 10, 110, 210, 0, 0);
         x.out(0);
         due("26: all out", x.even(1, 100, 0), NONE);
+        int[] ears = {1, 850, 999};
+        for (int ear : ears) {
+            Check.plain(x, 0, 0, 0, 0, ear);
+        }
+        due("26: the first multiple", x.even(3, 100, 0), 100);
+        due("26: the last multiple", x.even(3, 100, 1), 900);
+        due("26: 1 and 999 count", x.even(3, 100, 2), 0);
+        due("26: a single 999", x.even(3, 11, 2), 0);
         due("26: measure below", x.even(-1, 10, 0), BAD);
         due("26: measure above", x.even(4, 10, 0), BAD);
         due("26: step below", x.even(0, 9, 0), BAD);
@@ -809,6 +849,10 @@ public final class PromiseTest {
         due("27: near both counts once", x.judge(0, 104, 106, 1), 3);
         due("27: an edge is in the third above", x.judge(0, 110, 200, 0), 1);
         due("27: all above", x.judge(0, 1, 2, 0), 5);
+        Check.plain(x, 0, 0, 0, 0, 1);
+        Check.plain(x, 0, 0, 0, 0, 999);
+        due("27: 1 and 999 count", x.judge(3, 2, 999, 0), 1);
+        due("27: 1 and 999 near", x.judge(3, 6, 999, 1), 2);
         x.day(5);
         x.out(5);
         due("27: out", x.judge(0, 105, 300, 1), 3);
@@ -910,9 +954,11 @@ public final class PromiseTest {
         due("31: least int", x.sheet(0, 0, Integer.MIN_VALUE), -14);
         x.lay(0, 3, 77);
         due("31: stays", x.count(11), 96);
+        x.lay(0, 0, 78);
         due("31: anew", x.sheet(0, 2, 4), 1);
         x.read(0, 0, 2, 0, 1);
         due("31: cells are 0 again", x.of(0, 5), 0);
+        due("31: the first as well", x.of(0, 2), 0);
     }
 
     private static void promise32() {
@@ -1021,6 +1067,19 @@ public final class PromiseTest {
         due("34: index", x.torn(), 2);
         x.read(0, 0, 1, 1, 1);
         due("34: cast", x.torn(), 3);
+    }
+
+    private static void promise35Elsewhere() {
+        ElevenMeasures x = Check.room("from 1 edge a 400 998;from 1 edge b 400 998;"
+                + "from 1 edge c 400 998;from 2 edge a 5 6;");
+        Check.plain(x, 0, 350, 350, 350, 0);
+        Check.plain(x, 0, 5, 100, 100, 0);
+        Check.plain(x, 0, 999, 999, 999, 0);
+        x.day(1);
+        due("35: out of drawer 13", x.count(3), 1);
+        x.day(2);
+        due("35: out of drawers 0 and 13", x.count(3), 2);
+        due("35: out of drawer 0", x.drawer(0, 2), 1);
     }
 
     private static void promise35() {
