@@ -356,6 +356,8 @@ public final class PromiseTest {
         x.day(5);
         Check.plain(x, 0, 100, 200, 0, 0);
         Check.plain(x, 0, 101, 200, 0, 0);
+        x.day(6);
+        x.anew(0, 0, 90);
         x.day(8);
         x.anew(0, 0, 110);
         x.anew(0, 0, 120);
@@ -363,7 +365,7 @@ public final class PromiseTest {
         x.anew(0, 1, 778);
         x.day(9);
         x.anew(0, 0, 0);
-        int[][] rows = {{0, 0}, {4, 0}, {5, 100}, {7, 100}, {8, 120}, {9, 0}, {9999, 0}};
+        int[][] rows = {{0, 0}, {4, 0}, {5, 100}, {6, 90}, {7, 90}, {8, 120}, {9, 0}, {9999, 0}};
         for (int[] row : rows) {
             due("11: on " + row[0], x.known(0, 0, row[0]), row[1]);
         }
@@ -578,6 +580,15 @@ public final class PromiseTest {
         due("18: below what is told", x.match(50), 2);
         x.tell(0, 97, 0, 0, 0);
         due("18: too far below", x.match(50), NONE);
+        for (int m = 0; m < 4; m++) {
+            ElevenMeasures y = Check.room("grow " + (char) ('a' + m) + " 10;");
+            y.card(0, 1, 100, 100, 100, 100, 0);
+            y.day(1000);
+            for (int k = 0; k < 4; k++) {
+                y.tell(0, k == 0 ? 200 : 0, k == 1 ? 200 : 0, k == 2 ? 200 : 0, k == 3 ? 200 : 0);
+                due("18: " + k + " where " + m + " grows", y.match(50), k == m ? 0 : NONE);
+            }
+        }
     }
 
     private static void promise19() {
@@ -740,12 +751,18 @@ public final class PromiseTest {
         x.bar(1, 2, true);
         x.bar(0, 1, true);
         due("24: quarrels within one man only", x.men(2), 2);
+        x.bar(0, 5, true);
+        due("24: a quarrel of card 0", x.men(2), 3);
         x.day(5);
         x.out(3);
         due("24: the chain is broken", x.men(0), 3);
         due("24: out", x.men(13), NONE);
         due("24: alone", x.men(12), 2);
-        due("24: quarrels then", x.men(2), 0);
+        due("24: quarrels then", x.men(2), 1);
+        due("24: a greatest with card 0", x.men(1), 3);
+        x.out(0);
+        due("24: card 0 is out", x.men(10), NONE);
+        due("24: the least then", x.men(16), 5);
         int[] bad = {-1, 3, 9, 17, 34, Integer.MAX_VALUE, Integer.MIN_VALUE};
         for (int what : bad) {
             due("24: what " + what, x.men(what), BAD);
@@ -853,6 +870,8 @@ public final class PromiseTest {
         Check.plain(x, 0, 0, 0, 0, 999);
         due("27: 1 and 999 count", x.judge(3, 2, 999, 0), 1);
         due("27: 1 and 999 near", x.judge(3, 6, 999, 1), 2);
+        Check.plain(x, 0, 0, 0, 0, 500);
+        due("27: 1, 500 and 999", x.judge(3, 2, 999, 0), 0);
         x.day(5);
         x.out(5);
         due("27: out", x.judge(0, 105, 300, 1), 3);
@@ -935,6 +954,12 @@ public final class PromiseTest {
         due("30: wrong ones", x.count(7), 2);
         due("30: below", x.wrong(-1), BAD);
         due("30: above", x.wrong(3), BAD);
+        ElevenMeasures y = new ElevenMeasures();
+        Check.plain(y, 0, 100, 0, 0, 0);
+        y.tell(0, 100, 0, 0, 0);
+        y.hold(0);
+        y.hold(0);
+        due("30: an earlier one of the same day", y.wrong(1), 1);
     }
 
     private static void promise31() {
