@@ -717,13 +717,21 @@ public final class ElevenMeasures {
             behind = 0;
             step();
             for (int line = 0; line <= Rules.LINES && found == NO_FAULT && kind != END; line++) {
-                if (line == Rules.LINES) {
+                // A token that begins no line is not the first one of a 17th line either.
+                if (!isName("from") && !isRule()) {
+                    fail(NOT_THERE);
+                } else if (line == Rules.LINES) {
                     fail(TOO_MANY);
                 } else {
                     readLine();
                 }
             }
             return found == NO_FAULT;
+        }
+
+        private boolean isRule() {
+            return isName("edge") || isName("spread") || isName("grow") || isName("keep")
+                    || isName("other");
         }
 
         private void readLine() {

@@ -166,6 +166,8 @@ final class Model {
             // The line's last step reads one token on: a line is told ahead of its fault.
             next();
             while (!token.isEmpty()) {
+                boolean begins = token.matches("from|edge|spread|grow|keep|other");
+                if (!begins) throw new Fault(start, 2);
                 if (told.size() == 16) throw new Fault(start, 4);
                 told.add(line(told));
             }

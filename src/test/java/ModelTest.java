@@ -91,7 +91,7 @@ public final class ModelTest {
 
     private String randomText() {
         StringBuilder text = new StringBuilder();
-        int n = random.nextInt(3) == 0 ? random.nextInt(20) : random.nextInt(6);
+        int n = random.nextInt(3) == 0 ? random.nextInt(18) : random.nextInt(6);
         boolean isTight = n > 10;
         for (int i = 0; i < n; i++) {
             int day = random.nextInt(2) == 0 ? model.today : random.nextInt(60);
@@ -112,6 +112,10 @@ public final class ModelTest {
                 default -> text.append("grow ").append((char) ('a' + random.nextInt(4)))
                         .append(random.nextInt(51)).append(" ;");
             }
+        }
+        if (random.nextInt(6) == 0) {
+            String[] strays = {"7", " ;", "a", "keeps", "from", "other", "12345", "=", "edge", "  "};
+            text.append(strays[random.nextInt(strays.length)]);
         }
         if (random.nextInt(3) == 0 && text.length() > 0) {
             char[] signs = " ;09azd=from1".toCharArray();

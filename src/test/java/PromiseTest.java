@@ -236,8 +236,18 @@ public final class PromiseTest {
         reads(sixteen + "  ", 16);
         faults(manyLines(17), sixteen.length(), 4);
         faults(sixteen + " keep 1;", sixteen.length() + 1, 4);
-        faults(sixteen + "from", sixteen.length(), 4);
         faults(sixteen + "=", sixteen.length(), 1);
+        faults(sixteen + "12345", sixteen.length(), 1);
+        String[] begins = {"from", "from;", "edge", "spread 6", "grow", "keep 0", "other"};
+        for (String begin : begins) {
+            faults(sixteen + begin, sixteen.length(), 4);
+        }
+        // what begins no line is not the first token of the 17th one
+        String[] strays = {"7", ";", "a", "keeps 1;", "fro 1", "rom", "9999 keep 1;"};
+        for (String stray : strays) {
+            faults(sixteen + " " + stray, sixteen.length() + 1, 2);
+            faults(manyLines(15) + stray, manyLines(15).length(), 2);
+        }
     }
 
     private static void promise5Stays() {
