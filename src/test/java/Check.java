@@ -39,6 +39,15 @@ final class Check {
         x.end(text.length());
     }
 
+    /** A text of so many lines, 240 bytes long at most by 20 of them. */
+    static String manyLines(int n) {
+        StringBuilder text = new StringBuilder();
+        for (int i = 0; i < n; i++) {
+            text.append("from").append(i).append("keep1;");
+        }
+        return text.toString();
+    }
+
     static int text(ElevenMeasures x, String text) {
         tape(x, text);
         return x.text();

@@ -222,19 +222,11 @@ public final class PromiseTest {
         faults("spread 0 1;spread 6 1;", 18, 3);
     }
 
-    private static String manyLines(int n) {
-        StringBuilder text = new StringBuilder();
-        for (int i = 0; i < n; i++) {
-            text.append("from").append(i).append("keep1;");
-        }
-        return text.toString();
-    }
-
     private static void promise5Lines() {
-        String sixteen = manyLines(16);
+        String sixteen = Check.manyLines(16);
         reads(sixteen, 16);
         reads(sixteen + "  ", 16);
-        faults(manyLines(17), sixteen.length(), 4);
+        faults(Check.manyLines(17), sixteen.length(), 4);
         faults(sixteen + " keep 1;", sixteen.length() + 1, 4);
         faults(sixteen + "=", sixteen.length(), 1);
         faults(sixteen + "12345", sixteen.length(), 1);
@@ -246,7 +238,7 @@ public final class PromiseTest {
         String[] strays = {"7", ";", "a", "keeps 1;", "fro 1", "rom", "9999 keep 1;"};
         for (String stray : strays) {
             faults(sixteen + " " + stray, sixteen.length() + 1, 2);
-            faults(manyLines(15) + stray, manyLines(15).length(), 2);
+            faults(Check.manyLines(15) + stray, Check.manyLines(15).length(), 2);
         }
     }
 
