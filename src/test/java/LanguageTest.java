@@ -31,11 +31,28 @@ public final class LanguageTest {
     }
 
     public static void main(String[] args) throws Exception {
+        faceOfDocument();
         face();
         classes();
         words();
         methodsAreShort();
         Check.close();
+    }
+
+    /** The list above is the document's own: each line of "The public face". */
+    private static void faceOfDocument() throws Exception {
+        String document = Files.readString(Path.of("../shared/DOC.md"));
+        Matcher call = Pattern.compile("\n    public (int|long) (\\w+)\\((.*)\\);").matcher(document);
+        Set<String> told = new TreeSet<>();
+        while (call.find()) {
+            String kinds = call.group(3).replaceAll("(\\w+) \\w+", "$1").replace(" ", "");
+            told.add(call.group(1) + " " + call.group(2) + "(" + kinds + ")");
+        }
+        Check.holds("the document's face " + told, told.equals(new TreeSet<>(FACE)));
+        Matcher constants = Pattern.compile("public static final int (.*);").matcher(document);
+        String due = "BAD = " + ElevenMeasures.BAD + ", STATE = " + ElevenMeasures.STATE
+                + ", FULL = " + ElevenMeasures.FULL + ", NONE = " + ElevenMeasures.NONE;
+        Check.holds("the document's constants", constants.find() && constants.group(1).equals(due));
     }
 
     private static void face() {
